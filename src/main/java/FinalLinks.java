@@ -265,6 +265,7 @@ public final class FinalLinks {
     }
 
     public int need(int s, int t) {
+        finality.refresh();
         return tree.isLink(s, t) ? needs.askNeed(s, t) : NONE;
     }
 
@@ -273,6 +274,7 @@ public final class FinalLinks {
     }
 
     public int way(int t) {
+        finality.refresh();
         return tree.isPoint(t) ? needs.askWay(t) : NONE;
     }
 
@@ -372,7 +374,9 @@ public final class FinalLinks {
             return -2 - tokens.faultAt;
         }
         state.mark(before);
-        int done = lines.judge(state, finality);
+        int done = lines.live(state);
+        finality.refresh();
+        lines.tell(finality);
         if (lives == 0) {
             state.rewind(before);
         } else if (done > 0) {
@@ -608,6 +612,7 @@ public final class FinalLinks {
         private static final int MOST_DIGITS = 3;
 
         int kind;
+        long name;
         int fault;
         int faultAt;
         private final Bytes tape;
@@ -615,7 +620,8 @@ public final class FinalLinks {
         private int end;
         private boolean tooLong;
         private int at;
-        private long name;
+        private int letters;
+        private int digits;
         private int number;
 
         Tokens(Bytes tape) {
@@ -643,37 +649,35 @@ public final class FinalLinks {
                 return;
             }
             at = place;
-            int sign = tape.row[place];
-            if (isLetter(sign) || isDigit(sign)) {
-                readRun();
-            } else {
-                place++;
+            readRun();
+            if (letters + digits == 0) {
+                int sign = tape.row[place];
                 kind = isSign(sign) ? sign : BAD;
+                place++;
+            } else if (digits == 0 && letters <= MOST_LETTERS) {
+                kind = kindOfWord(name);
+            } else {
+                kind = letters == 0 && digits <= MOST_DIGITS ? DIGITS : BAD;
             }
         }
 
         /** A run goes on to its own end, behind the most bytes of the text, too. */
         private void readRun() {
-            int letters = 0;
-            int digits = 0;
+            letters = 0;
+            digits = 0;
             name = 0;
             number = 0;
             for (; place < tape.length; place++) {
                 int sign = tape.row[place];
-                if (isLetter(sign)) {
+                if (sign >= 'a' && sign <= 'z') {
                     letters++;
                     name = name << 8 | sign;
-                } else if (isDigit(sign)) {
+                } else if (sign >= '0' && sign <= '9') {
                     digits++;
                     number = number * 10 + (sign - '0');
                 } else {
                     break;
                 }
-            }
-            if (digits == 0 && letters <= MOST_LETTERS) {
-                kind = kindOfWord(name);
-            } else {
-                kind = letters == 0 && digits <= MOST_DIGITS ? DIGITS : BAD;
             }
         }
 
@@ -688,14 +692,6 @@ public final class FinalLinks {
 
         private static boolean isBlank(int sign) {
             return sign == 32 || sign == 10;
-        }
-
-        private static boolean isLetter(int sign) {
-            return sign >= 'a' && sign <= 'z';
-        }
-
-        private static boolean isDigit(int sign) {
-            return sign >= '0' && sign <= '9';
         }
 
         private static boolean isSign(int sign) {
@@ -733,13 +729,9 @@ public final class FinalLinks {
         }
 
         /** A NAME that nothing has yet; 0, which is no name, with a FAULT. */
-        long takeNewName(Chain tree) {
-            if (kind != NAME) {
-                refuse(UNFIT);
-                return 0;
-            }
-            if (tree.voterNamed(name) != NONE || tree.blockNamed(name) != NONE) {
-                refuse(WRONG_NAME);
+        long takeNewName(boolean isTold) {
+            if (kind != NAME || isTold) {
+                refuse(kind == NAME ? WRONG_NAME : UNFIT);
                 return 0;
             }
             long taken = name;
@@ -747,18 +739,9 @@ public final class FinalLinks {
             return taken;
         }
 
-        /** The number of a VOTER by its NAME; NONE with a FAULT. */
-        int takeVoter(Chain tree) {
-            return takeNamed(kind == NAME ? tree.voterNamed(name) : NONE);
-        }
-
-        /** The number of a BLOCK by its NAME; NONE with a FAULT. */
-        int takeBlock(Chain tree) {
-            return takeNamed(kind == NAME ? tree.blockNamed(name) : NONE);
-        }
-
-        private int takeNamed(int found) {
-            if (found == NONE) {
+        /** A NAME that was looked up: the number that was found for it; NONE with a FAULT. */
+        int takeNamed(int found) {
+            if (kind != NAME || found == NONE) {
                 refuse(kind == NAME ? WRONG_NAME : UNFIT);
                 return NONE;
             }
@@ -867,7 +850,7 @@ public final class FinalLinks {
 
         private boolean readVoter(Tokens in) {
             in.advance();
-            long name = in.takeNewName(this);
+            long name = in.takeNewName(hasName(in.name));
             if (name == 0) {
                 return false;
             }
@@ -881,13 +864,13 @@ public final class FinalLinks {
 
         private boolean readBlock(Tokens in) {
             in.advance();
-            long name = in.takeNewName(this);
+            long name = in.takeNewName(hasName(in.name));
             if (name == 0) {
                 return false;
             }
             int below = NONE;
             if (blocks > 0) {
-                below = in.take(Tokens.ON) ? in.takeBlock(this) : NONE;
+                below = in.take(Tokens.ON) ? in.takeNamed(blockNamed(in.name)) : NONE;
                 if (below == NONE) {
                     return false;
                 }
@@ -896,7 +879,7 @@ public final class FinalLinks {
             int weight = NONE;
             if (in.kind == Tokens.CHANGE) {
                 in.advance();
-                changes = in.takeVoter(this);
+                changes = in.takeNamed(voterNamed(in.name));
                 weight = changes == NONE ? NONE : in.takeNumber(0, MOST_WEIGHT);
                 if (weight == NONE) {
                     return false;
@@ -982,6 +965,10 @@ public final class FinalLinks {
                 }
             }
             return points;
+        }
+
+        private boolean hasName(long name) {
+            return voterNamed(name) != NONE || blockNamed(name) != NONE;
         }
 
         int voterNamed(long name) {
@@ -1481,7 +1468,6 @@ public final class FinalLinks {
         }
 
         int askNeed(int s, int t) {
-            finality.refresh();
             int fewest = fewestVoters(s, t);
             if (fewest != NONE) {
                 latestVoters = foundVoters;
@@ -1490,7 +1476,6 @@ public final class FinalLinks {
         }
 
         int askWay(int t) {
-            finality.refresh();
             if ((finality.just >> t & 1) == 1) {
                 latestSource = NONE;
                 return 0;
@@ -1626,18 +1611,18 @@ public final class FinalLinks {
             in.advance();
             int v = NONE;
             if (kind != Tokens.GROW) {
-                v = in.takeVoter(tree);
+                v = in.takeNamed(tree.voterNamed(in.name));
                 if (v == NONE) {
                     return false;
                 }
             }
-            int b = in.takeBlock(tree);
+            int b = in.takeNamed(tree.blockNamed(in.name));
             if (b == NONE) {
                 return false;
             }
             int t = NONE;
             if (kind == Tokens.VOTE) {
-                t = in.takeBlock(tree);
+                t = in.takeNamed(tree.blockNamed(in.name));
                 if (t == NONE) {
                     return false;
                 }
@@ -1650,20 +1635,22 @@ public final class FinalLinks {
             return in.take(';');
         }
 
-        /** Lives the LINES up to one that is WRONG, and tells of it: how many were lived. */
-        int judge(State state, Finality finality) {
+        /** Lives the LINES up to one that is WRONG: how many were lived. */
+        int live(State state) {
             int why = 0;
             int lived = 0;
             for (int line = 0; line < count && why == 0; line++) {
                 why = liveLine(state, line);
                 lived += why == 0 ? 1 : 0;
             }
-            finality.refresh();
             latest[0] = why;
             latest[1] = lived;
+            return lived;
+        }
+
+        void tell(Finality finality) {
             latest[2] = finality.finals;
             latest[3] = finality.choice();
-            return lived;
         }
 
         private int liveLine(State state, int line) {
@@ -1724,22 +1711,27 @@ public final class FinalLinks {
             return readCond(in, tree, 1) && in.take(Tokens.END) ? ones : NONE;
         }
 
+        /** An 'or' is a step only behind the ALL at its right, so it waits until that has ended. */
         private boolean readCond(Tokens in, Chain tree, int depth) {
-            boolean fits = readAll(in, tree, depth);
-            for (int n = 0; n < MOST_ONES && fits && in.kind == Tokens.OR; n++) {
+            boolean fits = readOne(in, tree, depth);
+            boolean orWaits = false;
+            for (int n = 0; n < MOST_ONES && fits && isJoint(in.kind); n++) {
+                int joint = in.kind;
+                if (joint == Tokens.OR) {
+                    fits = !orWaits || addStep(Tokens.OR, 0, 0);
+                    orWaits = true;
+                }
                 in.advance();
-                fits = readAll(in, tree, depth) && addStep(Tokens.OR, 0, 0);
+                fits = fits && readOne(in, tree, depth);
+                if (joint == Tokens.AND) {
+                    fits = fits && addStep(Tokens.AND, 0, 0);
+                }
             }
-            return fits;
+            return fits && (!orWaits || addStep(Tokens.OR, 0, 0));
         }
 
-        private boolean readAll(Tokens in, Chain tree, int depth) {
-            boolean fits = readOne(in, tree, depth);
-            for (int n = 0; n < MOST_ONES && fits && in.kind == Tokens.AND; n++) {
-                in.advance();
-                fits = readOne(in, tree, depth) && addStep(Tokens.AND, 0, 0);
-            }
-            return fits;
+        private static boolean isJoint(int kind) {
+            return kind == Tokens.OR || kind == Tokens.AND;
         }
 
         private boolean readOne(Tokens in, Chain tree, int depth) {
@@ -1759,7 +1751,7 @@ public final class FinalLinks {
                 return readOne(in, tree, depth + 1) && addStep(Tokens.NOT, 0, 0);
             }
             if (first == Tokens.UNDER) {
-                int b = in.takeBlock(tree);
+                int b = in.takeNamed(tree.blockNamed(in.name));
                 return b != NONE && addStep(Tokens.UNDER, 0, b);
             }
             return first < Tokens.HEIGHT ? addStep(first, 0, 0) : readMeasure(in, first);
@@ -1801,7 +1793,7 @@ public final class FinalLinks {
                 } else if (kind == Tokens.OR && depth >= 2) {
                     depth--;
                     open[depth - 1] |= open[depth];
-                } else {
+                } else if (depth < MOST_STEPS) {
                     open[depth] = blocksOfStep(step, tree, finality);
                     depth++;
                 }
