@@ -59,6 +59,7 @@ public final class PromisesTest {
             x.now(6), x.now(7), x.now(8)}, 0, 0, 0, 0, 0, 0, 0, -1, -1);
         Check.row("1: told last", new long[] {x.fault(), x.needed(), x.wayFrom(), x.byteAt(0),
             x.told(0), x.said(-1), x.undo()}, 0, -1, -1, -1, -1, -1, -1);
+        Check.row("1: no book", new long[] {x.told(1), x.told(2), x.told(3)}, -1, -1, -1);
         Check.due("1: end", x.end(0), true);
         Check.due("1: restore", x.restore(0) || x.restore(1), false);
     }
@@ -371,6 +372,33 @@ public final class PromisesTest {
         x.votes(0, 0, 1);
         Check.chain(x, "block");
         Check.due("16: behind a fault", x.undo(), 0);
+        Check.book(x, 1, "grow r;");
+        Check.due("16: a book of one line", x.undo(), 0);
+        manyActs();
+    }
+
+    /** The places of acts that are undone are used again, in whatever order they come. */
+    private static void manyActs() {
+        FinalLinks x = Check.withChain(WAY);
+        for (int i = 0; i < 15; i++) {
+            x.grows(i);
+        }
+        for (int b = 0; b < 20; b++) {
+            x.looks(0, b);
+        }
+        for (int i = 0; i < 5; i++) {
+            Check.due("16: undone", x.undo(), 7 - i);
+            Check.due("16: the look before", x.voter(0, 2), 18 - i);
+        }
+        for (int b = 0; b < 7; b++) {
+            x.looks(1, b);
+        }
+        for (int i = 0; i < 7; i++) {
+            Check.due("16: undone again", x.undo(), 7 - i);
+            Check.row("16: both looks", new long[] {x.voter(0, 2), x.voter(1, 2)}, 14, 5 - i);
+        }
+        Check.due("16: the oldest", x.undo(), 0);
+        Check.row("16: at last", new long[] {x.voter(0, 2), x.undo()}, 13, -1);
     }
 
     private static void offends() {
@@ -386,6 +414,7 @@ public final class PromisesTest {
         Check.due("17: the least of both", x.offends(0, 2, 4), 1);
         x.votes(1, 0, 4);
         Check.due("17: within the other", x.offends(1, 1, 2), 2);
+        Check.due("17: shorter from one source", x.offends(1, 0, 2), 0);
         Check.row("17: no such ones", new long[] {x.offends(3, 0, 1), x.offends(-1, 0, 1),
             x.offends(0, -1, 1), x.offends(0, 0, 5)}, -1, -1, -1, -1);
         Check.row("17: it can not be", new long[] {x.offends(0, 1, 2), x.offends(0, 2, 1),
@@ -445,6 +474,19 @@ public final class PromisesTest {
         Check.due("19: base q", z.now(7), 2);
         z.votes(0, 0, 1);
         Check.row("19: base p", nowRow(z), 7, 1, 1, 2, 2, 2, 1, 1, 1);
+        // Every change is seen at once.
+        z.grows(1);
+        Check.due("19: grown", z.now(8), 3);
+        z.image(0);
+        Check.chain(z, "voter a 1;block r;");
+        Check.row("19: a new chain", nowRow(z), 1, 1, 0, 0, 0, 0, 0, 0, 0);
+        z.restore(0);
+        Check.row("19: restored", nowRow(z), 7, 1, 1, 2, 2, 2, 1, 1, 3);
+        z.undo();
+        z.votes(0, 1, 3);
+        Check.due("19: final", z.now(1), 3);
+        z.undo();
+        Check.due("19: final no more", z.now(1), 1);
     }
 
     private static long[] chosenRow(FinalLinks x, int most) {
@@ -493,6 +535,9 @@ public final class PromisesTest {
         FinalLinks y = Check.withChain("voter a 1;voter b 3;voter c 3;voter d 5;voter e 0;"
                 + "block r;block p on r;");
         Check.row("21: least by bits", new long[] {y.need(0, 1), y.needed()}, 2, 8 | 2);
+        FinalLinks eight = Check.withChain("voter a 0;voter b 0;voter c 1;voter d 1;voter e 1;"
+                + "voter f 1;voter g 1;voter h 9;block r;block p on r;");
+        Check.row("21: of eight", new long[] {eight.need(0, 1), eight.needed()}, 2, 128 | 4);
         FinalLinks z = Check.withChain("voter a 0;block r;block p on r;");
         Check.row("21: no weights", new long[] {z.need(0, 1), z.needed()}, -1, -1);
         FinalLinks w = Check.withChain(TWO_LONG);
@@ -550,6 +595,11 @@ public final class PromisesTest {
             x.votes(v, 0, 3);
             x.votes(v, 3, 4);
         }
+        Check.due("25: at once", x.clash(), 1);
+        x.undo();
+        Check.due("26: at once", x.clashAt(0), -1);
+        x.votes(2, 3, 4);
+        Check.due("26: at once again", x.clashAt(0), 1);
         Check.due("25: s, too", x.now(1), 15);
         Check.row("26: the least ones", new long[] {x.clash(), x.clashAt(0), x.clashAt(1)},
                 1, 1, 3);
@@ -657,6 +707,42 @@ public final class PromisesTest {
         Check.due("31: it grew", y.count(1), 2);
         Check.due("31: as one act", y.undo(), 0);
         Check.due("31: undone", y.count(1), 1);
+        for (int i = 0; i < 40; i++) {
+            drawnOneByOne(i * 7919 - 9);
+        }
+    }
+
+    /** The same deeds, drawn here and done by the calls for one each. */
+    private static void drawnOneByOne(int seed) {
+        FinalLinks x = Check.withChain(FORKED);
+        FinalLinks y = Check.withChain(FORKED);
+        int s = seed;
+        int due = 0;
+        for (int i = 0; i < 60; i++) {
+            s = s * 1103515245 + 12345;
+            int sort = (s >>> 8) % 8;
+            s = s * 1103515245 + 12345;
+            int b = (s >>> 8) % y.count(1);
+            int why;
+            if (sort == 0) {
+                why = y.grows(b);
+            } else {
+                s = s * 1103515245 + 12345;
+                int v = (s >>> 8) % 3;
+                if (sort < 3) {
+                    why = y.looks(v, b);
+                } else {
+                    s = s * 1103515245 + 12345;
+                    why = y.votes(v, b, (s >>> 8) % y.count(1));
+                }
+            }
+            due += why == 0 ? 1 : 0;
+        }
+        Check.due("31: drawn by " + seed, x.drawn(60, seed), due);
+        Check.row("31: now by " + seed, nowRow(x), nowRow(y));
+        for (int v = 0; v < 3; v++) {
+            Check.due("31: look of " + v, x.voter(v, 2), y.voter(v, 2));
+        }
     }
 
     private static void odds() {
@@ -685,6 +771,7 @@ public final class PromisesTest {
             x.odds(0, 0, 1), x.odds(0, 21, 1), x.odds(0, -1, 1)}, -1, -1, -1, -1, -1);
         FinalLinks y = Check.withChain("block r;");
         Check.due("32: the root alone", y.odds(0, 20, Integer.MAX_VALUE), 20);
+        Check.due("32: one seed", y.odds(0, 1, 5), 1);
     }
 
     private static void book() {
