@@ -116,6 +116,9 @@ public final class PromisesTest {
         Check.due("4: the same anew", Check.chain(x, FORKED), 7);
         Check.row("4: no votes, looks, sentence, undo", new long[] {x.now(3), x.voter(1, 2),
             x.said(-1), x.undo()}, 0, -1, -1, -1);
+        Check.chain(x, "voter z 5;block r;block p on r;");
+        Check.row("4: nothing of the old voters", new long[] {x.link(0, 1, 2), x.link(0, 1, 4),
+            x.need(0, 1), x.guilt(0), x.weight(0, 1)}, 5, 5, 1, 0, -1);
         Check.due("4: images stay", x.restore(0), true);
         Check.row("4: image", new long[] {x.now(3), x.voter(1, 2), x.said(-1)}, 1, 2, 2);
     }
@@ -185,6 +188,7 @@ public final class PromisesTest {
             x.fork(2, 2), x.fork(0, 3), x.fork(3, 3)}, 0, 0, 1, 1, 2, 0, 3);
         Check.row("8: no such ones", new long[] {x.fork(4, 0), x.fork(0, 4), x.fork(-1, 0),
             x.fork(0, -1)}, -1, -1, -1, -1);
+        Check.row("7: none is ahead of itself", new long[] {x.ahead(0, 0), x.ahead(3, 3)}, 0, 0);
         x.grows(1);
         x.grows(4);
         Check.due("8: of grown ones", x.fork(5, 2), 1);
