@@ -67,7 +67,8 @@ public final class PromisesTest {
     private static void feed() {
         FinalLinks x = new FinalLinks();
         // "block r;" and other bytes in the order highest first
-        Check.due("2: feed", x.feed(0x626C6F63, 0x6B20723B, 0x20202020, 0x0A0A0A0A, 0x20202020), 20);
+        Check.due("2: feed",
+                x.feed(0x626C6F63, 0x6B20723B, 0x20202020, 0x0A0A0A0A, 0x20202020), 20);
         Check.due("2: chain", x.chain(), 1);
         for (int i = 1; i <= 47; i++) {
             Check.due("2: feed " + i, x.feed(i, 0, 0, 0, -1), 20 * i);
