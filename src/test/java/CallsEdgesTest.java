@@ -631,8 +631,6 @@ public final class CallsEdgesTest {
         int sixty = x.drawn(60, 0);
         Check.due("31: sixty", sixty > 0 && sixty <= 60, true);
         long[] behind = Snapshot.of(x);
-        FinalLinks y = Check.withChain(FORKED);
-        y.drawn(59, 0);
         FinalLinks z = Check.withChain(FORKED);
         int s = 0;
         int due = 0;
@@ -848,6 +846,15 @@ public final class CallsEdgesTest {
         Check.row("38: each place has its own", Snapshot.of(x), kept);
         x.restore(0);
         Check.due("38: the later one", x.now(3), 2);
+        // Other VOTES at the same places give way to those that were kept, seen at once.
+        Check.chain(x, FORKED);
+        x.votes(2, 1, 2);
+        Check.row("38: another vote", new long[] {x.vote(0, 0), x.vote(0, 1), x.vote(0, 2),
+            x.link(1, 2, 0), x.now(8)}, 2, 1, 2, 4, 2);
+        x.restore(1);
+        Check.row("38: the vote that was kept", new long[] {x.vote(0, 0), x.vote(0, 1),
+            x.vote(0, 2), x.link(1, 2, 0), x.link(0, 1, 0)}, 0, 0, 1, 0, 1);
+        Check.row("38: all that was kept", Snapshot.of(x), kept);
     }
 
     /** "(the tape, and what other calls told last, stays; nothing can be undone)" */

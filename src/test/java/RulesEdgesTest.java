@@ -118,6 +118,9 @@ public final class RulesEdgesTest {
             x.weight(4, 1)}, 7, 7, 7);
         FinalLinks none = Check.withChain("voter a 3;block r;block p on r;");
         Check.row("without changes", new long[] {none.weight(0, 0), none.weight(1, 0)}, 3, 3);
+        FinalLinks late = Check.withChain("block r;voter a 3;block p on r change a 4;voter b 5;");
+        Check.row("of one that is told behind blocks", new long[] {late.weight(0, 0),
+            late.weight(1, 0), late.weight(0, 1), late.weight(1, 1)}, 3, 4, 5, 5);
     }
 
     /** "VOTES go from a POINT (SOURCE) to one behind it (TARGET), numbered from 0 as they come" */
@@ -267,6 +270,11 @@ public final class RulesEdgesTest {
         Check.row("all at once", new long[] {x.now(0), x.now(1), x.now(5)}, 27, 9, 3);
         x.undo();
         Check.row("none again", new long[] {x.now(0), x.now(1), x.now(5)}, 1, 1, 2);
+        FinalLinks y = Check.withChain(LONG_WAY);
+        y.votes(0, 0, 1);
+        y.votes(0, 0, 2);
+        y.votes(0, 1, 2);
+        Check.row("by two links, as by one", new long[] {y.now(0), y.now(1), y.now(5)}, 7, 3, 3);
     }
 
     /** "a JUST SOURCE of a LINK that COUNTS and whose TARGET is of the next LEVEL" */
@@ -347,6 +355,11 @@ public final class RulesEdgesTest {
         x.votes(1, 0, 1);
         Check.row("of one voter", new long[] {x.now(2), x.now(6), x.voter(0, 3), x.voter(1, 3),
             x.voter(2, 3)}, 2, 1, 0, 1, 0);
+        x.votes(1, 0, 3);
+        x.votes(1, 0, 4);
+        Check.row("by two pairs, as by one", new long[] {x.now(2), x.now(6)}, 2, 2);
+        x.undo();
+        x.undo();
         x.undo();
         Check.row("undone", new long[] {x.now(2), x.now(6)}, 0, 0);
         FinalLinks eight = Check.withChain(Texts.voters(8) + "block r;block p on r;block q on r;");
@@ -636,6 +649,8 @@ public final class RulesEdgesTest {
             x.clashAt(1)}, 143, 1, 2);
         x.undo();
         Check.row("undone", new long[] {x.clash(), x.clashAt(0), x.clashAt(1)}, 1, 1, 7);
+        votesOfTwo(x, 2, 4, 0, 2);
+        Check.due("asked for the second one at once", x.clashAt(1), 2);
         Check.row("no blocks", new long[] {new FinalLinks().clash(),
             new FinalLinks().clashAt(0)}, 0, -1);
     }
@@ -857,6 +872,13 @@ public final class RulesEdgesTest {
         Check.due("images stay", x.restore(0), true);
         Check.row("as kept", new long[] {x.now(3), x.voter(0, 2), x.count(1), x.said(-1)},
                 1, 1, 8, 2);
+        Check.row("the way is there", new long[] {x.chosen(0), x.now(8), x.block(1, 7)}, 0, 5, 1);
+        Check.chain(x, "voter a 1;block r;");
+        Check.row("another way at once", new long[] {x.chosen(0), x.chosen(1), x.now(8)},
+                0, -1, 0);
+        Check.chain(x, "");
+        Check.row("no way at once", new long[] {x.chosen(0), x.now(7), x.now(8), x.now(0)},
+                -1, -1, -1, 0);
         Check.due("an image is nothing that was kept at the other place", x.restore(1), false);
     }
 
