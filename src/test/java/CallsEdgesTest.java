@@ -151,6 +151,16 @@ public final class CallsEdgesTest {
         Check.row("3: below 0", new long[] {x.end(-1) ? 1 : 0, x.count(4),
             x.end(Integer.MIN_VALUE) ? 1 : 0, x.count(4)}, 0, 20, 0, 20);
         Check.row("3: the first 8", new long[] {x.end(8) ? 1 : 0, x.chain(), x.count(4)}, 1, 1, 0);
+        // What stood behind the n-th byte is no part of a TOKEN that ends there.
+        Check.put(x, "leafs");
+        Check.row("3: a word is cut", new long[] {x.end(4) ? 1 : 0, x.sentence(), x.fault()},
+                1, 1, 0);
+        Check.put(x, "number<10");
+        Check.row("3: a number is cut", new long[] {x.end(8) ? 1 : 0, x.sentence(), x.said(-1)},
+                1, 1, 1);
+        Check.put(x, "block abcdefgh");
+        Check.row("3: a letter too many is cut", new long[] {x.end(13) ? 1 : 0, x.chain(),
+            x.fault()}, 1, -14, 1);
         Check.put(x, "block r;");
         Check.row("3: none", new long[] {x.end(0) ? 1 : 0, x.count(4), x.chain(), x.count(1)},
                 1, 0, 0, 0);
@@ -471,6 +481,12 @@ public final class CallsEdgesTest {
         Check.row("18: by the first", new long[] {x.evidence(1, 0), x.evidence(1, 1),
             x.evidence(1, 2), x.evidence(2, 0), x.evidence(2, 1), x.evidence(2, 2),
             x.evidence(3, 0), x.now(6)}, 1, 4, 1, 3, 5, 2, -1, 3);
+        x.undo();
+        Check.row("18: undone", new long[] {x.evidence(1, 0), x.evidence(2, 0), x.now(6)},
+                1, -1, 2);
+        x.undo();
+        Check.row("18: undone again", new long[] {x.evidence(0, 0), x.evidence(1, 0), x.now(6)},
+                0, -1, 1);
         FinalLinks y = Check.withChain("voter a 1;block r;block p on r;block q on r;"
                 + "block s on r;");
         y.votes(0, 0, 3);

@@ -876,6 +876,15 @@ public final class RulesEdgesTest {
         Check.chain(x, "voter a 1;block r;");
         Check.row("another way at once", new long[] {x.chosen(0), x.chosen(1), x.now(8)},
                 0, -1, 0);
+        Check.chain(x, "voter a 5;voter b 1;block r;block p on r;");
+        Check.row("no weight of a voter that was", new long[] {x.link(0, 1, 2), x.link(0, 1, 4),
+            x.need(0, 1), x.needed(), x.weight(0, 2), x.voter(2, 0)}, 6, 6, 1, 1, -1, -1);
+        x.votes(1, 0, 1);
+        Check.row("by those that are", new long[] {x.guilt(0), x.guilt(1), x.link(0, 1, 1)},
+                0, 1, 1);
+        Check.chain(x, "voter a 1;block r;block p on r;block q on r;");
+        offend(x, 0);
+        Check.row("guilt by those that are", guiltOf(x), 1, 1);
         Check.chain(x, "");
         Check.row("no way at once", new long[] {x.chosen(0), x.now(7), x.now(8), x.now(0)},
                 -1, -1, -1, 0);

@@ -200,6 +200,14 @@ public final class TermsEdgesTest {
         Texts.badChain("voter a 1b2;", 1, 8);
         Texts.badChain("voter a b1;", 1, 8);
         Texts.goodChain("voter a 1;block b;", 2);
+        // No TOKEN is passed over: not one of as many letters as digits, ahead of what may come.
+        Texts.badChain("block r a1;", 1, 8);
+        Texts.badChain("block r ab12;", 1, 8);
+        Texts.badChain("block r 1a;", 1, 8);
+        Texts.badSentence("(leaf a1)", 1, 6);
+        Texts.badSentence("a1(leaf)", 1, 0);
+        Texts.badSentence("number a1<1", 1, 7);
+        Texts.badBook("grow r a1;", 1, 7);
         // It ends where another sign comes, which is not a part of it.
         Texts.badChain("voter a 1B;", 1, 9);
         Texts.badChain("block aB;", 1, 7);
