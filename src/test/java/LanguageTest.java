@@ -34,7 +34,11 @@ public final class LanguageTest {
         face();
         members();
         nestedClasses();
-        source(Files.readString(Path.of("src/main/java/FinalLinks.java")));
+        staticFields(FinalLinks.class);
+        String whole = Files.readString(Path.of("src/main/java/FinalLinks.java"));
+        source(whole);
+        methods(withoutComments(whole));
+        library(withoutComments(whole));
         Check.finish("LanguageTest");
     }
 
@@ -114,8 +118,74 @@ public final class LanguageTest {
         }
     }
 
+    /** Rule 5: constants of int, long, boolean, char or String, and rows of numbers. */
+    private static void staticFields(Class<?> of) {
+        List<String> types = List.of("int", "long", "boolean", "char", "java.lang.String",
+                "[I", "[J", "[C", "[B");
+        for (Field f : of.getDeclaredFields()) {
+            if (Modifier.isStatic(f.getModifiers())) {
+                Check.due("static " + f.getName() + " is final",
+                        Modifier.isFinal(f.getModifiers()), true);
+                Check.due("static " + f.getName() + " is of a type of rule 5",
+                        types.contains(f.getType().getName()), true);
+            }
+        }
+        for (Class<?> inside : of.getDeclaredClasses()) {
+            staticFields(inside);
+        }
+    }
+
+    private static String withoutComments(String whole) {
+        return whole.replaceAll("(?s)/\\*.*?\\*/", "").replaceAll("//[^\n]*", "");
+    }
+
+    /** Rule 11: some sixty lines. The room of a run: what is made is made by constructors alone. */
+    private static void methods(String code) {
+        Pattern head = Pattern.compile(
+                "( {4}| {8})(?! )[\\w\\[\\] ]*\\b(\\w+)\\([^()]*\\)[\\w ]*\\{");
+        String name = "";
+        String close = "";
+        int lines = 0;
+        int seen = 0;
+        for (String line : code.split("\n")) {
+            Matcher m = head.matcher(line);
+            if (close.isEmpty() && m.matches()) {
+                name = m.group(2);
+                close = m.group(1) + "}";
+                lines = 0;
+                seen++;
+            }
+            lines++;
+            boolean makes = count(line.replaceAll("throw new", ""), "\\bnew\\b") > 0;
+            if (makes) {
+                Check.due(name + " makes something and is a constructor: " + line.trim(),
+                        !close.isEmpty() && Character.isUpperCase(name.charAt(0)), true);
+            }
+            if (!close.isEmpty() && line.equals(close)) {
+                Check.due(name + " has sixty lines at most", lines <= 60, true);
+                close = "";
+            }
+        }
+        Check.due("methods seen in the source", seen > 100, true);
+    }
+
+    /** Rule 4: of the library's own classes only what is told there. */
+    private static void library(String code) {
+        Set<String> used = new TreeSet<>();
+        Matcher m = Pattern.compile("\\b(String|StringBuilder|Integer|Long|Math|System|Arrays|List|"
+                + "ArrayList|Object|Character|Byte|Short|Boolean|Iterable|Iterator)\\b(\\.\\w+)?")
+                .matcher(code);
+        while (m.find()) {
+            used.add(m.group());
+        }
+        Set<String> may = new TreeSet<>(Arrays.asList("String", "Integer.bitCount",
+                "Integer.numberOfLeadingZeros", "Math.min", "Math.max", "System.arraycopy"));
+        used.removeAll(may);
+        Check.due("used of the library beside rule 4: " + used, used.size(), 0);
+    }
+
     private static void source(String whole) {
-        String code = whole.replaceAll("(?s)/\\*.*?\\*/", "").replaceAll("//[^\n]*", "");
+        String code = withoutComments(whole);
         String[] banned = {"->", "::", "\\btry\\b", "\\bcatch\\b", "\\bfinally\\b", "\\bassert\\b",
             "\\bsynchronized\\b", "\\bpackage\\b", "\\bdouble\\b", "\\bfloat\\b", "Exact\\b",
             "\\bstatic\\s*\\{", "\"\\s*\\+|\\+\\s*\"", "\\bprotected\\b", "\\.getMessage\\b",
@@ -127,12 +197,6 @@ public final class LanguageTest {
         Check.due("throws", count(code, "\\bthrow\\b"),
                 count(code, "throw new NoSuchElementException\\(\\);"));
         Check.due("only ASCII", whole.chars().allMatch(c -> c < 128), true);
-        int makes = 0;
-        for (String body : code.split("\n    (?=public |private )")) {
-            makes += body.startsWith("public int") || body.startsWith("public boolean")
-                    ? count(body.replaceAll("throw new", ""), "\\bnew\\b") : 0;
-        }
-        Check.due("objects made by methods of the face", makes, 0);
     }
 
     private static int count(String code, String pattern) {
